@@ -55,6 +55,11 @@ public final class ForecastTest {
         CHECKS.due("price in 60", m.priceIn(0, 60), 12);
         m.sell(0, 0, 4);
         CHECKS.due("price in 1, not less than 0", m.priceIn(0, 1), 0);
+        m.list(7, 4, 1);
+        CHECKS.due("price of the second in 1, in the stroke", m.priceIn(1, 1), 0);
+        CHECKS.due("price of the second in 4", m.priceIn(1, 4), 21);
+        CHECKS.due("price of the second in 5, in the next stroke", m.priceIn(1, 5), 0);
+        CHECKS.due("price of the second in 60", m.priceIn(1, 60), 21);
     }
 
     private static void promise26WorthIn() {
@@ -101,6 +106,14 @@ public final class ForecastTest {
         }
         CHECKS.due("closing price under 54 doves", m.closingPrice(0), 63);
         CHECKS.due("bestToBuy() still the rise from 0", m.bestToBuy(), 0);
+
+        BellHush rises = new BellHush();
+        rises.list(9, 20, 10);
+        rises.pass(8);
+        rises.list(5, 20, 12);
+        CHECKS.due("closing dear after a rise of 9", rises.closingPrice(0), 81);
+        CHECKS.due("closing cheap after a rise of 15", rises.closingPrice(1), 15);
+        CHECKS.due("bestToBuy() by the rise, not by the closing price", rises.bestToBuy(), 1);
     }
 
     private static void promise28BestToSell() {
@@ -114,6 +127,29 @@ public final class ForecastTest {
         CHECKS.due("no more than down to -9", m.bestToSell(0, 0), 5);
         m.sell(0, 0, 5);
         CHECKS.due("none at -9", m.bestToSell(0, 0), 0);
+        m.sell(1, 0, 8);
+        CHECKS.due("one more at -8", m.bestToSell(1, 0), 1);
+        CHECKS.due("the other one still none", m.bestToSell(0, 0), 0);
+        m.list(9, 5, 1);
+        CHECKS.due("none of the second, where the price rises", m.bestToSell(0, 1), 0);
+
+        // Who is short already gains by each more: its own doves press what it has to be closed at.
+        BellHush shorted = new BellHush();
+        shorted.list(1, 20, 0);
+        shorted.list(9, 20, 0);
+        shorted.addTrader();
+        shorted.addTrader();
+        shorted.pass(18);
+        shorted.sell(1, 1, 3);
+        CHECKS.due("short 3 at 156, 165 to close", shorted.bestToSell(1, 1), 6);
+        CHECKS.due("the other one under its doves", shorted.bestToSell(0, 1), 9);
+        CHECKS.due("tower of a small rise", shorted.bestToSell(0, 0), 9);
+        BellHush steep = new BellHush();
+        steep.list(5, 10, 0);
+        steep.addTrader();
+        steep.pass(5);
+        steep.sell(0, 0, 3);
+        CHECKS.due("short 3, the rise too steep for 6 more doves", steep.bestToSell(0, 0), 0);
         BellHush rising = new BellHush();
         rising.list(9, 20, 0);
         rising.addTrader();
@@ -130,6 +166,7 @@ public final class ForecastTest {
         m.buy(0, 0, 9);
         m.pass(19);
         CHECKS.due("0 to 9 held come to the same", m.bestToSell(0, 0), 0);
+        CHECKS.due("the other one, without any, gains", m.bestToSell(1, 0), 9);
 
         // Selling k at price p, to be closed at c - 2k, comes to k * (p - c + 2k) more: first less, then more.
         BellHush rising = new BellHush();
@@ -206,6 +243,26 @@ public final class ForecastTest {
         both.sell(0, 0, 9);
         both.buy(0, 1, 9);
         CHECKS.due("a loss made good in the same second", both.secondsUntilDebt(0), -1);
+        both.addTrader();
+        both.buy(1, 0, 9);
+        both.sell(1, 1, 9);
+        CHECKS.due("and the other way round", both.secondsUntilDebt(1), -1);
+
+        // Neither stroke alone, but both of one second take more than the purse.
+        BellHush added = new BellHush();
+        added.list(9, 10, 0);
+        added.list(8, 10, 0);
+        added.addTrader();
+        added.sell(0, 0, 1);
+        added.sell(0, 1, 1);
+        CHECKS.due("79 and 70 of 100", added.secondsUntilDebt(0), 10);
+
+        BellHush cheap = new BellHush();
+        cheap.list(9, 10, 0);
+        cheap.list(1, 10, 0);
+        cheap.addTrader();
+        cheap.sell(0, 1, 2);
+        CHECKS.due("no debt by the cheap one, the dear one in the same second", cheap.secondsUntilDebt(0), -1);
 
         // The loss comes first, the gain later: debt in between counts.
         BellHush between = new BellHush();
@@ -229,6 +286,10 @@ public final class ForecastTest {
     private static void promise30MeanPrice() {
         BellHush m = new BellHush();
         CHECKS.due("meanPrice() without towers", m.meanPrice(), 0.0);
+        BellHush one = new BellHush();
+        one.list(7, 20, 0);
+        one.pass(3);
+        CHECKS.due("meanPrice() of one", one.meanPrice(), 21.0);
         m.list(1, 20, 0);
         m.list(3, 20, 0);
         CHECKS.due("meanPrice() of prices of 0", m.meanPrice(), 0.0);

@@ -144,6 +144,14 @@ public final class MarketTest {
             CHECKS.refused("buy of a wrong number that would be refused", m, ARGUMENT, () -> m.buy(0, 0, n));
         }
 
+        BellHush others = oneTower(5, 20, 0);
+        others.list(5, 20, 0);
+        others.buy(0, 0, 9);
+        others.buy(1, 1, 9);
+        CHECKS.due("9 held by another", others.buy(1, 0, 9), 0);
+        CHECKS.due("9 held elsewhere", others.buy(0, 1, 9), 0);
+        CHECKS.refused("a tenth of the second tower", others, STATE, () -> others.buy(1, 1, 1));
+
         BellHush poor = oneTower(1, 20, 17);
         CHECKS.refused("buy for 102 with 100", poor, STATE, () -> poor.buy(0, 0, 6));
         CHECKS.due("buy for 85 with 100", poor.buy(0, 0, 5), 85);
@@ -195,6 +203,13 @@ public final class MarketTest {
             CHECKS.refused("sell of " + n, m, ARGUMENT, () -> m.sell(0, 0, n));
             CHECKS.refused("sell of " + n + " without any", m, ARGUMENT, () -> m.sell(1, 0, n));
         }
+        BellHush others = oneTower(5, 20, 0);
+        others.list(5, 20, 0);
+        others.sell(0, 0, 9);
+        others.sell(1, 1, 9);
+        CHECKS.due("9 sold by another", others.sell(1, 0, 9), 0);
+        CHECKS.due("9 sold elsewhere", others.sell(0, 1, 9), 0);
+        CHECKS.refused("a tenth of the second tower", others, STATE, () -> others.sell(1, 1, 1));
     }
 
     private static void promise6Pass() {

@@ -101,6 +101,10 @@ public final class TowersTest {
         CHECKS.due("price under 4 doves, not less than 0", m.priceOf(0), 0);
         m.pass(1);
         CHECKS.due("price a second later", m.priceOf(0), 1);
+        m.list(5, 20, 0);
+        m.pass(1);
+        CHECKS.due("price of the second tower", m.priceOf(1), 5);
+        CHECKS.due("price of the first beside it", m.priceOf(0), 4);
         BellHush dear = new BellHush();
         dear.list(9, 20, 0);
         dear.pass(19);

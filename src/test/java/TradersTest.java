@@ -126,6 +126,10 @@ public final class TradersTest {
         CHECKS.due("inDebt() ahead of the stroke", m.inDebt(), 0);
         m.pass(16);
         CHECKS.due("inDebt() behind the stroke", m.inDebt(), 1);
+        m.pass(4);
+        m.sell(0, 0, 9);
+        m.pass(16);
+        CHECKS.due("inDebt() with the first one", m.inDebt(), 2);
     }
 
     private static void refusals() {
