@@ -1,11 +1,17 @@
+import java.io.IOException;
 import java.lang.reflect.Constructor;
 import java.lang.reflect.Field;
 import java.lang.reflect.Method;
 import java.lang.reflect.Modifier;
+import java.nio.charset.StandardCharsets;
+import java.nio.file.Files;
+import java.nio.file.Path;
 import java.util.Arrays;
 import java.util.TreeSet;
+import java.util.regex.Matcher;
+import java.util.regex.Pattern;
 
-/** The public face: what stands in the document's code block, and nothing else. */
+/** The public face: what stands in the document's code block, in its order, and nothing else. */
 public final class FaceTest {
     private static final String INDEX = " throws IndexOutOfBoundsException";
     private static final String ARGUMENT = "IllegalArgumentException";
@@ -45,13 +51,11 @@ public final class FaceTest {
     private static final Checks CHECKS = new Checks();
 
     public static void main(String[] args) {
-        classItself();
-        methods();
-        fields();
-        CHECKS.end("FaceTest");
+        CHECKS.run(FaceTest.class);
     }
 
-    private static void classItself() {
+    @Holds(at = "The public face", says = "public final class BellHush {")
+    static void classAndConstructor() {
         int modifiers = BellHush.class.getModifiers();
         CHECKS.isTrue("the class is public and final", Modifier.isPublic(modifiers) && Modifier.isFinal(modifiers));
         Constructor<?>[] constructors = BellHush.class.getDeclaredConstructors();
@@ -62,7 +66,8 @@ public final class FaceTest {
             && BellHush.class.getSuperclass() == Object.class);
     }
 
-    private static void methods() {
+    @Holds(at = "The public face", says = "public BellHush(); public int list(")
+    static void methodsOfTheDocumentAndNoOthers() {
         TreeSet<String> due = new TreeSet<>(Arrays.asList(FACE));
         TreeSet<String> publicNames = new TreeSet<>();
         TreeSet<String> privateNames = new TreeSet<>();
@@ -81,12 +86,56 @@ public final class FaceTest {
         CHECKS.isTrue("private with a public one's name: " + privateNames, privateNames.isEmpty());
     }
 
-    private static void fields() {
+    @Holds(at = "The public face", says = "public final class BellHush {")
+    static void noFieldCanBeSeen() {
         for (Field field : BellHush.class.getDeclaredFields()) {
             CHECKS.isTrue("is private: " + field.getName(), Modifier.isPrivate(field.getModifiers()));
             CHECKS.isTrue("is final if static: " + field.getName(),
                 !Modifier.isStatic(field.getModifiers()) || Modifier.isFinal(field.getModifiers()));
         }
+    }
+
+    @Holds(at = "Terms", says = "Ahead of the calls list, addTrader, buy, sell, pass the interface says: ---- the market.")
+    static void theMarket() throws IOException {
+        CHECKS.isTrue("calls under it", under("the market").equals(" list addTrader buy sell pass"));
+    }
+
+    @Holds(at = "Terms", says = "Ahead of the calls second, towers, silenceOf, dovesOn, priceOf, secondsUntilStroke,"
+        + " strokesOf, openSeconds, dearest, nextToStrike the interface says: ---- towers.")
+    static void towers() throws IOException {
+        CHECKS.isTrue("calls under it", under("towers").equals(" second towers silenceOf dovesOn priceOf"
+            + " secondsUntilStroke strokesOf openSeconds dearest nextToStrike"));
+    }
+
+    @Holds(at = "Terms", says = "Ahead of the calls traders, purseOf, holds, worthOf, richest, shortsOf, inDebt"
+        + " the interface says: ---- traders.")
+    static void traders() throws IOException {
+        CHECKS.isTrue("calls under it", under("traders").equals(
+            " traders purseOf holds worthOf richest shortsOf inDebt"));
+    }
+
+    @Holds(at = "Terms", says = "Ahead of the calls closingPrice, priceIn, worthIn, bestToBuy, bestToSell,"
+        + " secondsUntilDebt, meanPrice, digest the interface says: ---- what would be.")
+    static void whatWouldBe() throws IOException {
+        CHECKS.isTrue("calls under it", under("what would be").equals(
+            " closingPrice priceIn worthIn bestToBuy bestToSell secondsUntilDebt meanPrice digest"));
+    }
+
+    /** The public calls between this heading and the next one in the class's file. */
+    private static String under(String heading) throws IOException {
+        Pattern call = Pattern.compile("^    public \\w+ (\\w+)\\(");
+        StringBuilder calls = new StringBuilder();
+        boolean inside = false;
+        for (String line : Files.readAllLines(Path.of("src/main/java/BellHush.java"), StandardCharsets.UTF_8)) {
+            if (line.contains("// ----")) {
+                inside = line.trim().equals("// ---- " + heading);
+            }
+            Matcher matcher = call.matcher(line);
+            if (inside && matcher.find()) {
+                calls.append(' ').append(matcher.group(1));
+            }
+        }
+        return calls.toString();
     }
 
     private static String signature(Method method) {

@@ -3,8 +3,10 @@
  * stroke, and looks ahead by letting a copy of itself go on, a second at a time.
  */
 public final class ModelTest {
-    private static final int RUNS = 400;
+    private static final int RUNS = 1000;
+    // With the 11 questions behind each third of them 506: nothing is promised behind the 512th call.
     private static final int CALLS = 110;
+    private static final int ASKED_EACH = 3;
     private static final Checks CHECKS = new Checks();
 
     private long state;
@@ -47,7 +49,9 @@ public final class ModelTest {
             } else {
                 trade(what, market, model, kind % 2 == 0);
             }
-            compare(what, market, model);
+            if (call % ASKED_EACH == ASKED_EACH - 1) {
+                compare(what, market, model);
+            }
         }
     }
 
