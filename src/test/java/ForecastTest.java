@@ -562,6 +562,15 @@ public final class ForecastTest {
         CHECKS.due("short of the cheap one alone", cheap.secondsUntilDebt(0), -1);
     }
 
+    @Holds(at = "Promise 29", says = "Returns behind how many seconds the purse is less than 0,")
+    static void debtInAFullMarket() {
+        for (int tower = 0; tower < 8; tower++) {
+            BellHush m = new Script().towers(8, 9, 20, 13).traders(6).sell(5, tower, 9).make();
+            CHECKS.due("9 short of tower " + tower, m.secondsUntilDebt(5), 13);
+            CHECKS.due("another one", m.secondsUntilDebt(4), -1);
+        }
+    }
+
     @Holds(at = "Promise 29", says = "if nothing else is done:")
     static void debtIsOffWhenMoreIsDone() {
         BellHush m = new Script().list(9, 20, 0).traders(1).sell(0, 0, 9).make();

@@ -64,10 +64,7 @@ final class Script {
     List<String> changedBy(Call call) {
         List<Question> questions = Question.all(towers, traders);
         if (answers == null) {
-            answers = new ArrayList<>();
-            for (Question question : questions) {
-                answers.add(Call.answer(question.call, make()));
-            }
+            answers = answersTo(questions);
         }
         List<String> changed = new ArrayList<>();
         for (int i = 0; i < questions.size(); i++) {
@@ -80,5 +77,13 @@ final class Script {
             }
         }
         return changed;
+    }
+
+    private List<String> answersTo(List<Question> questions) {
+        List<String> all = new ArrayList<>();
+        for (Question question : questions) {
+            all.add(Call.answer(question.call, make()));
+        }
+        return all;
     }
 }

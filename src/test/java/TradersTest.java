@@ -189,6 +189,17 @@ public final class TradersTest {
     }
 
     @Holds(at = "Promise 21", says = "Returns the trader with the greatest worth,")
+    static void richestByTheWorthOfNowNotOfLater() {
+        BellHush m = new Script().list(9, 20, 0).list(1, 20, 0).traders(2).pass(1).buy(1, 1, 4).pass(1)
+            .buy(0, 0, 4).make();
+        CHECKS.due("4 bought at 18, worth 18", m.worthOf(0), 100);
+        CHECKS.due("4 bought at 1, worth 2", m.worthOf(1), 104);
+        CHECKS.due("104 now, where 100 will be 136 in a second", m.richest(), 1);
+        m.pass(1);
+        CHECKS.due("a second later", m.richest(), 0);
+    }
+
+    @Holds(at = "Promise 21", says = "Returns the trader with the greatest worth,")
     static void richestWhereAllHaveLessThan0() {
         BellHush m = market(2, 2);
         m.sell(0, 0, 9);
