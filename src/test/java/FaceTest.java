@@ -95,7 +95,8 @@ public final class FaceTest {
         }
     }
 
-    @Holds(at = "Terms", says = "Ahead of the calls list, addTrader, buy, sell, pass the interface says: ---- the market.")
+    @Holds(at = "Terms", says = "Ahead of the calls list, addTrader, buy, sell, pass the interface says:"
+        + " ---- the market.")
     static void theMarket() throws IOException {
         CHECKS.isTrue("calls under it", under("the market").equals(" list addTrader buy sell pass"));
     }

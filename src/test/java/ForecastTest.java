@@ -499,7 +499,8 @@ public final class ForecastTest {
             for (int tower = 0; tower < 2; tower++) {
                 int who = trader;
                 int what = tower;
-                CHECKS.changesNothing("bestToSell(" + trader + ", " + tower + ")", busy(), m -> m.bestToSell(who, what));
+                CHECKS.changesNothing("bestToSell(" + trader + ", " + tower + ")", busy(),
+                    m -> m.bestToSell(who, what));
             }
         }
     }
@@ -701,7 +702,8 @@ public final class ForecastTest {
             3, 0, 21, 1, 0, 0, 21));
     }
 
-    @Holds(at = "Promise 31", says = "then for each trader purseOf(), worthOf(), shortsOf(), and for each tower holds().")
+    @Holds(at = "Promise 31", says = "then for each trader purseOf(), worthOf(), shortsOf(),"
+        + " and for each tower holds().")
     static void digestWithTraders() {
         CHECKS.due("a trader, no towers", new Script().traders(1).make().digest(),
             checksum(0, 0, 1, -1, -1, 0, 0, -1, 100, 100, 0));

@@ -6,6 +6,7 @@ public final class MarketTest {
     private static final String TRADED = "Throws IllegalArgumentException if seconds is not 1 to 9";
     private static final String PASSED = "Throws IllegalArgumentException if seconds is not 1 to 60";
     private static final Checks CHECKS = new Checks();
+    private static final Edges EDGES = new Edges(CHECKS);
 
     public static void main(String[] args) {
         CHECKS.run(MarketTest.class);
@@ -328,38 +329,13 @@ public final class MarketTest {
     }
 
     @Holds(at = "Promise 4", says = INDEX)
-    static void buyWithoutAnyTraderOrTower() {
-        CHECKS.refused("in a new market", new Script(), Checks.INDEX, m -> m.buy(0, 0, 1));
-        CHECKS.refused("without traders", new Script().list(1, 2, 0), Checks.INDEX, m -> m.buy(0, 0, 1));
-        CHECKS.refused("without towers", new Script().traders(1), Checks.INDEX, m -> m.buy(0, 0, 1));
+    static void buyOfNoSuchTrader() {
+        EDGES.noSuchTrader("buy, trader,", (m, trader) -> m.buy(trader, 0, 1));
     }
 
     @Holds(at = "Promise 4", says = INDEX)
-    static void buyOfATraderTooSmallOrTooLarge() {
-        Script script = new Script().towers(3, 1, 5, 0).traders(2);
-        CHECKS.due("buy(0, 0, 1)", script.make().buy(0, 0, 1), 0);
-        CHECKS.due("buy(1, 0, 1)", script.make().buy(1, 0, 1), 0);
-        CHECKS.refused("buy(-1, 0, 1)", script, Checks.INDEX, m -> m.buy(-1, 0, 1));
-        CHECKS.refused("buy(2, 0, 1)", script, Checks.INDEX, m -> m.buy(2, 0, 1));
-        CHECKS.refused("buy(least, 0, 1)", script, Checks.INDEX, m -> m.buy(LEAST, 0, 1));
-        CHECKS.refused("buy(most, 0, 1)", script, Checks.INDEX, m -> m.buy(MOST, 0, 1));
-        Script full = new Script().list(1, 5, 0).traders(6);
-        CHECKS.due("buy(5, 0, 1)", full.make().buy(5, 0, 1), 0);
-        CHECKS.refused("buy(6, 0, 1)", full, Checks.INDEX, m -> m.buy(6, 0, 1));
-    }
-
-    @Holds(at = "Promise 4", says = INDEX)
-    static void buyOfATowerTooSmallOrTooLarge() {
-        Script script = new Script().towers(2, 1, 5, 0).traders(3);
-        CHECKS.due("buy(0, 0, 1)", script.make().buy(0, 0, 1), 0);
-        CHECKS.due("buy(0, 1, 1)", script.make().buy(0, 1, 1), 0);
-        CHECKS.refused("buy(0, -1, 1)", script, Checks.INDEX, m -> m.buy(0, -1, 1));
-        CHECKS.refused("buy(0, 2, 1)", script, Checks.INDEX, m -> m.buy(0, 2, 1));
-        CHECKS.refused("buy(0, least, 1)", script, Checks.INDEX, m -> m.buy(0, LEAST, 1));
-        CHECKS.refused("buy(0, most, 1)", script, Checks.INDEX, m -> m.buy(0, MOST, 1));
-        Script full = new Script().towers(8, 1, 5, 0).traders(1);
-        CHECKS.due("buy(0, 7, 1)", full.make().buy(0, 7, 1), 0);
-        CHECKS.refused("buy(0, 8, 1)", full, Checks.INDEX, m -> m.buy(0, 8, 1));
+    static void buyOfNoSuchTower() {
+        EDGES.noSuchTower("buy, tower,", (m, tower) -> m.buy(0, tower, 1));
     }
 
     @Holds(at = "Promise 4", says = TRADED)
@@ -531,38 +507,13 @@ public final class MarketTest {
     }
 
     @Holds(at = "Promise 5", says = INDEX)
-    static void sellWithoutAnyTraderOrTower() {
-        CHECKS.refused("in a new market", new Script(), Checks.INDEX, m -> m.sell(0, 0, 1));
-        CHECKS.refused("without traders", new Script().list(1, 2, 0), Checks.INDEX, m -> m.sell(0, 0, 1));
-        CHECKS.refused("without towers", new Script().traders(1), Checks.INDEX, m -> m.sell(0, 0, 1));
+    static void sellOfNoSuchTrader() {
+        EDGES.noSuchTrader("sell, trader,", (m, trader) -> m.sell(trader, 0, 1));
     }
 
     @Holds(at = "Promise 5", says = INDEX)
-    static void sellOfATraderTooSmallOrTooLarge() {
-        Script script = new Script().towers(3, 1, 5, 0).traders(2);
-        CHECKS.due("sell(0, 0, 1)", script.make().sell(0, 0, 1), 0);
-        CHECKS.due("sell(1, 0, 1)", script.make().sell(1, 0, 1), 0);
-        CHECKS.refused("sell(-1, 0, 1)", script, Checks.INDEX, m -> m.sell(-1, 0, 1));
-        CHECKS.refused("sell(2, 0, 1)", script, Checks.INDEX, m -> m.sell(2, 0, 1));
-        CHECKS.refused("sell(least, 0, 1)", script, Checks.INDEX, m -> m.sell(LEAST, 0, 1));
-        CHECKS.refused("sell(most, 0, 1)", script, Checks.INDEX, m -> m.sell(MOST, 0, 1));
-        Script full = new Script().list(1, 5, 0).traders(6);
-        CHECKS.due("sell(5, 0, 1)", full.make().sell(5, 0, 1), 0);
-        CHECKS.refused("sell(6, 0, 1)", full, Checks.INDEX, m -> m.sell(6, 0, 1));
-    }
-
-    @Holds(at = "Promise 5", says = INDEX)
-    static void sellOfATowerTooSmallOrTooLarge() {
-        Script script = new Script().towers(2, 1, 5, 0).traders(3);
-        CHECKS.due("sell(0, 0, 1)", script.make().sell(0, 0, 1), 0);
-        CHECKS.due("sell(0, 1, 1)", script.make().sell(0, 1, 1), 0);
-        CHECKS.refused("sell(0, -1, 1)", script, Checks.INDEX, m -> m.sell(0, -1, 1));
-        CHECKS.refused("sell(0, 2, 1)", script, Checks.INDEX, m -> m.sell(0, 2, 1));
-        CHECKS.refused("sell(0, least, 1)", script, Checks.INDEX, m -> m.sell(0, LEAST, 1));
-        CHECKS.refused("sell(0, most, 1)", script, Checks.INDEX, m -> m.sell(0, MOST, 1));
-        Script full = new Script().towers(8, 1, 5, 0).traders(1);
-        CHECKS.due("sell(0, 7, 1)", full.make().sell(0, 7, 1), 0);
-        CHECKS.refused("sell(0, 8, 1)", full, Checks.INDEX, m -> m.sell(0, 8, 1));
+    static void sellOfNoSuchTower() {
+        EDGES.noSuchTower("sell, tower,", (m, tower) -> m.sell(0, tower, 1));
     }
 
     @Holds(at = "Promise 5", says = TRADED)

@@ -37,60 +37,42 @@ public final class RefusalsTest {
 
     @Holds(at = "Terms", says = "If several exceptions apply, the one that is named first is thrown.")
     static void buyNamesWhoAheadOfHowManyAheadOfTheRest() {
-        for (Script script : markets()) {
-            for (int trader : INDEXES) {
-                for (int tower : INDEXES) {
-                    for (int seconds : TRADED) {
-                        buyIsRefusedInOrder(script, trader, tower, seconds);
-                    }
-                }
-            }
-        }
-    }
-
-    private static void buyIsRefusedInOrder(Script script, int trader, int tower, int seconds) {
-        BellHush m = script.make();
-        String due;
-        if (trader < 0 || trader >= m.traders() || tower < 0 || tower >= m.towers()) {
-            due = "throws.IndexOutOfBoundsException";
-        } else if (seconds < 1 || seconds > 9) {
-            due = "throws.IllegalArgumentException";
-        } else if (m.holds(trader, tower) + seconds > 9 || m.purseOf(trader) < m.priceOf(tower) * seconds) {
-            due = "throws.IllegalStateException";
-        } else {
-            due = String.valueOf(m.priceOf(tower) * seconds);
-        }
-        answers("buy(" + trader + ", " + tower + ", " + seconds + ")", script,
-            c -> c.buy(trader, tower, seconds), due);
+        tradesAreRefusedInOrder("buy", (m, a) -> m.buy(a[0], a[1], a[2]),
+            (m, a) -> m.holds(a[0], a[1]) + a[2] > 9 || m.purseOf(a[0]) < m.priceOf(a[1]) * a[2]);
     }
 
     @Holds(at = "Terms", says = "If several exceptions apply, the one that is named first is thrown.")
     static void sellNamesWhoAheadOfHowManyAheadOfTheRest() {
+        tradesAreRefusedInOrder("sell", (m, a) -> m.sell(a[0], a[1], a[2]),
+            (m, a) -> m.holds(a[0], a[1]) - a[2] < -9);
+    }
+
+    private interface TooMuch {
+        boolean of(BellHush market, int[] arguments);
+    }
+
+    private static void tradesAreRefusedInOrder(String name, Trade trade, TooMuch tooMuch) {
         for (Script script : markets()) {
             for (int trader : INDEXES) {
                 for (int tower : INDEXES) {
                     for (int seconds : TRADED) {
-                        sellIsRefusedInOrder(script, trader, tower, seconds);
+                        int[] a = {trader, tower, seconds};
+                        answers(name + "(" + trader + ", " + tower + ", " + seconds + ")", script,
+                            m -> trade.of(m, a), tradeAnswers(script.make(), a, tooMuch));
                     }
                 }
             }
         }
     }
 
-    private static void sellIsRefusedInOrder(Script script, int trader, int tower, int seconds) {
-        BellHush m = script.make();
-        String due;
-        if (trader < 0 || trader >= m.traders() || tower < 0 || tower >= m.towers()) {
-            due = "throws.IndexOutOfBoundsException";
-        } else if (seconds < 1 || seconds > 9) {
-            due = "throws.IllegalArgumentException";
-        } else if (m.holds(trader, tower) - seconds < -9) {
-            due = "throws.IllegalStateException";
-        } else {
-            due = String.valueOf(m.priceOf(tower) * seconds);
+    private static String tradeAnswers(BellHush m, int[] a, TooMuch tooMuch) {
+        if (a[0] < 0 || a[0] >= m.traders() || a[1] < 0 || a[1] >= m.towers()) {
+            return "throws.IndexOutOfBoundsException";
         }
-        answers("sell(" + trader + ", " + tower + ", " + seconds + ")", script,
-            c -> c.sell(trader, tower, seconds), due);
+        if (a[2] < 1 || a[2] > 9) {
+            return "throws.IllegalArgumentException";
+        }
+        return tooMuch.of(m, a) ? "throws.IllegalStateException" : String.valueOf(m.priceOf(a[1]) * a[2]);
     }
 
     @Holds(at = "Terms", says = "If several exceptions apply, the one that is named first is thrown.")

@@ -120,7 +120,8 @@ public final class TermsTest {
             if (java.lang.reflect.Modifier.isPublic(method.getModifiers())) {
                 Class<?> answer = method.getReturnType();
                 boolean whole = answer == int.class || answer == long.class;
-                CHECKS.isTrue(method.getName() + " answers a whole number", whole != method.getName().equals("meanPrice"));
+                CHECKS.isTrue(method.getName() + " answers a whole number",
+                    whole != method.getName().equals("meanPrice"));
             }
         }
     }
