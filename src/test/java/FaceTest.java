@@ -6,48 +6,18 @@ import java.lang.reflect.Modifier;
 import java.nio.charset.StandardCharsets;
 import java.nio.file.Files;
 import java.nio.file.Path;
-import java.util.Arrays;
+import java.util.ArrayList;
+import java.util.List;
 import java.util.TreeSet;
 import java.util.regex.Matcher;
 import java.util.regex.Pattern;
 
 /** The public face: what stands in the document's code block, in its order, and nothing else. */
 public final class FaceTest {
-    private static final String INDEX = " throws IndexOutOfBoundsException";
-    private static final String ARGUMENT = "IllegalArgumentException";
-    private static final String STATE = "IllegalStateException";
-    private static final String[] FACE = {
-        "int list(int, int, int) throws " + ARGUMENT + ", " + STATE,
-        "int addTrader() throws " + STATE,
-        "int buy(int, int, int)" + INDEX + ", " + ARGUMENT + ", " + STATE,
-        "int sell(int, int, int)" + INDEX + ", " + ARGUMENT + ", " + STATE,
-        "int pass(int) throws " + ARGUMENT,
-        "int second()",
-        "int towers()",
-        "int silenceOf(int)" + INDEX,
-        "int dovesOn(int)" + INDEX,
-        "int priceOf(int)" + INDEX,
-        "int secondsUntilStroke(int)" + INDEX,
-        "int strokesOf(int)" + INDEX,
-        "int openSeconds(int)" + INDEX,
-        "int dearest()",
-        "int nextToStrike()",
-        "int traders()",
-        "int purseOf(int)" + INDEX,
-        "int holds(int, int)" + INDEX,
-        "int worthOf(int)" + INDEX,
-        "int richest()",
-        "int shortsOf(int)" + INDEX,
-        "int inDebt()",
-        "int closingPrice(int)" + INDEX,
-        "int priceIn(int, int)" + INDEX + ", " + ARGUMENT,
-        "int worthIn(int, int)" + INDEX + ", " + ARGUMENT,
-        "int bestToBuy()",
-        "int bestToSell(int, int)" + INDEX,
-        "int secondsUntilDebt(int)" + INDEX,
-        "double meanPrice()",
-        "long digest()",
-    };
+    private static final Path DOCUMENT = Path.of("..", "shared", "DOC.md");
+    private static final Path SOURCE = Path.of("src", "main", "java", "BellHush.java");
+    // The class, its constructor and its calls.
+    private static final int DECLARATIONS = 1 + 1 + 30;
     private static final Checks CHECKS = new Checks();
 
     public static void main(String[] args) {
@@ -67,8 +37,8 @@ public final class FaceTest {
     }
 
     @Holds(at = "The public face", says = "public BellHush(); public int list(")
-    static void methodsOfTheDocumentAndNoOthers() {
-        TreeSet<String> due = new TreeSet<>(Arrays.asList(FACE));
+    static void methodsOfTheDocumentAndNoOthers() throws IOException {
+        List<String> due = documentMethods();
         TreeSet<String> publicNames = new TreeSet<>();
         TreeSet<String> privateNames = new TreeSet<>();
         for (Method method : BellHush.class.getDeclaredMethods()) {
@@ -77,13 +47,23 @@ public final class FaceTest {
                 continue;
             }
             publicNames.add(method.getName());
-            CHECKS.isTrue("is public and no static: " + method.getName(),
-                Modifier.isPublic(method.getModifiers()) && !Modifier.isStatic(method.getModifiers()));
             CHECKS.isTrue("stands in the document: " + signature(method), due.remove(signature(method)));
         }
         CHECKS.isTrue("stand in the document alone: " + due, due.isEmpty());
         privateNames.retainAll(publicNames);
         CHECKS.isTrue("private with a public one's name: " + privateNames, privateNames.isEmpty());
+    }
+
+    @Holds(at = "The public face", says = "public double meanPrice(); public long digest(); }")
+    static void theFileDeclaresTheDocumentsFaceWordForWord() throws IOException {
+        List<String> due = documentFace();
+        CHECKS.due("declarations in the document", due.size(), DECLARATIONS);
+        List<String> declared = sourceFace();
+        CHECKS.due("declarations in the file", declared.size(), DECLARATIONS);
+        for (int i = 0; i < Math.min(due.size(), declared.size()); i++) {
+            CHECKS.isTrue("the file says " + declared.get(i) + ", the document " + due.get(i),
+                declared.get(i).equals(due.get(i)));
+        }
     }
 
     @Holds(at = "The public face", says = "public final class BellHush {")
@@ -127,7 +107,7 @@ public final class FaceTest {
         Pattern call = Pattern.compile("^    public \\w+ (\\w+)\\(");
         StringBuilder calls = new StringBuilder();
         boolean inside = false;
-        for (String line : Files.readAllLines(Path.of("src/main/java/BellHush.java"), StandardCharsets.UTF_8)) {
+        for (String line : Files.readAllLines(SOURCE, StandardCharsets.UTF_8)) {
             if (line.contains("// ----")) {
                 inside = line.trim().equals("// ---- " + heading);
             }
@@ -139,9 +119,44 @@ public final class FaceTest {
         return calls.toString();
     }
 
+    /** The declarations of the document's code block, in its order. */
+    private static List<String> documentFace() throws IOException {
+        List<String> face = new ArrayList<>();
+        boolean inside = false;
+        for (String line : Files.readAllLines(DOCUMENT, StandardCharsets.UTF_8)) {
+            if (line.startsWith("## ")) {
+                inside = line.equals("## The public face");
+            } else if (inside && line.trim().startsWith("public ")) {
+                face.add(line.trim().replaceAll(" ?[;{]$", ""));
+            }
+        }
+        return face;
+    }
+
+    /** The class's declarations that are not private, in the file's order, each on one line. */
+    private static List<String> sourceFace() throws IOException {
+        List<String> face = new ArrayList<>();
+        Matcher matcher = Pattern.compile("(?m)^ *(public [^;{]*)").matcher(Files.readString(SOURCE));
+        while (matcher.find()) {
+            face.add(matcher.group(1).trim().replaceAll("\\s+", " "));
+        }
+        return face;
+    }
+
+    /** The document's calls as signature() has them: without the names of parameters. */
+    private static List<String> documentMethods() throws IOException {
+        List<String> methods = new ArrayList<>();
+        for (String line : documentFace()) {
+            if (!line.startsWith("public final class ") && !line.startsWith("public BellHush(")) {
+                methods.add(line.replaceAll("\\bint \\w+([,)])", "int$1"));
+            }
+        }
+        return methods;
+    }
+
     private static String signature(Method method) {
-        String text = method.getReturnType().getSimpleName() + " " + method.getName()
-            + "(" + names(method.getParameterTypes()) + ")";
+        String text = Modifier.toString(method.getModifiers()) + " " + method.getReturnType().getSimpleName() + " "
+            + method.getName() + "(" + names(method.getParameterTypes()) + ")";
         String thrown = names(method.getExceptionTypes());
         return thrown.isEmpty() ? text : text + " throws " + thrown;
     }
